@@ -1113,7 +1113,7 @@ public final class FullStopWells {
         }
 
         int crowdAt(int field) {
-            return hasField(field) ? crowd[field] : 0;
+            return field >= 0 && field < MOST_FIELDS ? crowd[field] : 0;
         }
 
         private int villagesNear(int field, int v) {
