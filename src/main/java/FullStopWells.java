@@ -1274,10 +1274,10 @@ public final class FullStopWells {
             int nearest = -1;
             int least = 0;
             for (int i = 0; i < size; i++) {
-                int far = ground.far(from, field[i]);
-                if (water[i] > 0 && (nearest < 0 || far < least)) {
-                    nearest = i;
-                    least = far;
+                if (water[i] > 0) {
+                    int far = ground.far(from, field[i]);
+                    nearest = nearest < 0 || far < least ? i : nearest;
+                    least = nearest == i ? far : least;
                 }
             }
             return nearest;
