@@ -1274,10 +1274,13 @@ public final class FullStopWells {
             int nearest = -1;
             int least = 0;
             for (int i = 0; i < size; i++) {
-                if (water[i] > 0) {
-                    int far = ground.far(from, field[i]);
-                    nearest = nearest < 0 || far < least ? i : nearest;
-                    least = nearest == i ? far : least;
+                if (water[i] == 0) {
+                    continue;
+                }
+                int far = ground.far(from, field[i]);
+                if (nearest < 0 || far < least) {
+                    nearest = i;
+                    least = far;
                 }
             }
             return nearest;
