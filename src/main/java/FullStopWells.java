@@ -634,12 +634,12 @@ public final class FullStopWells {
         if (n < 1 || n > AT_ONCE) {
             return NONE;
         }
-        int parchedAhead = now.parchedSoFar;
+        trial.take(now);
         lot.begin(seed);
         for (int i = 0; i < n; i++) {
-            doDrawn();
+            tryDrawn();
         }
-        return tellTwo(now.waterOfAll(), now.size, now.parchedSoFar - parchedAhead);
+        return tellTwo(trial.waterOfAll(), trial.size, trial.parchedSoFar - now.parchedSoFar);
     }
 
     // ---- kept
@@ -953,16 +953,16 @@ public final class FullStopWells {
     }
 
     /** All numbers of a saying are drawn even if it can't be said. */
-    private void doDrawn() {
+    private void tryDrawn() {
         int kind = lot.drawn(4);
         if (kind <= 1) {
-            course.passOne(now, ground, ruling);
+            course.passOne(trial, ground, ruling);
         } else if (kind == 2) {
             int field = lot.drawn(ground.fields());
             int w = lot.drawn(9) + 1;
-            now.sayOn(field, w, lot.drawn(2));
-        } else if (now.size > 0) {
-            now.throwAnd(lot.drawn(now.size));
+            trial.sayOn(field, w, lot.drawn(2));
+        } else if (trial.size > 0) {
+            trial.throwAnd(lot.drawn(trial.size));
         }
     }
 

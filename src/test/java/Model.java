@@ -1058,29 +1058,29 @@ final class Model {
         if (n < 1 || n > 60) {
             return -1;
         }
-        int ahead = world.parched;
+        World then = world.copy();
         r = seed;
         for (int i = 0; i < n; i++) {
             switch (drawn(4)) {
                 case 0:
                 case 1:
-                    season(world, rule);
+                    season(then, rule);
                     break;
                 case 2: {
                     int field = drawn(rows * columns);
                     int w = 1 + drawn(9);
                     int meant = drawn(2);
-                    say(world, field, w, meant);
+                    say(then, field, w, meant);
                     break;
                 }
                 default:
-                    if (!world.wells.isEmpty()) {
-                        and(world, drawn(world.wells.size()));
+                    if (!then.wells.isEmpty()) {
+                        and(then, drawn(then.wells.size()));
                     }
                     break;
             }
         }
-        return tell(world.water(), world.wells.size(), world.parched - ahead);
+        return tell(then.water(), then.wells.size(), then.parched - world.parched);
     }
 
     int keep(int i) {

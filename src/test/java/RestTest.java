@@ -46,35 +46,79 @@ final class RestTest {
         Due.row(x, "years(1, -1)", x.years(1, -1), -1, 7, 6);
         // seed 0: 12345 by 65536 is 0: a season
         Due.row(x, "years(0, 1)", x.years(0, 1), 3, 2, 1);
-        Due.is("count(4)", x.count(4), 1);
-        Due.is("count(11)", x.count(11), 0);
-        long r = 7;
-        int kind = 0;
-        // by longs, as another way of going round: the first seed from 7 on whose first draw says something
-        for (int seed = 7; kind != 2; seed++) {
-            r = next(seed);
-            kind = (int) (r / 65536 % 4);
-            if (kind == 2) {
-                FullStopWells y = new FullStopWells();
-                long field = next(r);
-                long words = next(field);
-                long meant = next(words);
-                Due.row(y, "years(" + seed + ", 1)", y.years(seed, 1), 0, 1, 0);
-                Due.is("field", y.well(0, 0), field / 65536 % 9);
-                Due.is("words", y.well(0, 1), words / 65536 % 9 + 1);
-                Due.is("meant", y.well(0, 2), meant / 65536 % 2);
+        Due.row(x, "years(0, 1) once more", x.years(0, 1), 3, 2, 1);
+        for (int n = 1; n <= 60; n++) {
+            changesNothing(x, 7 * n, n);
+        }
+        drawsSayings();
+        toEightWells();
+        upToTheMostParched();
+    }
+
+    private static void changesNothing(FullStopWells x, int seed, int n) {
+        x.years(seed, n);
+        int[] due = {3, 3, 3, 2, 0, 0, 0, 6, 0, 3, 0, 0, 2, 0};
+        for (int what = 0; what < due.length; what++) {
+            Due.is("count(" + what + ") behind years(" + seed + ", " + n + ")", x.count(what), due[what]);
+        }
+        int[] wells = {1, 4, 1, 0, 0, 6, 6, 0, 7, 5, 0, 0, 0, 1, 1, 0};
+        for (int i = 0; i < wells.length; i++) {
+            Due.is("well(" + i / 8 + ", " + i % 8 + ") behind years()", x.well(i / 8, i % 8), wells[i]);
+        }
+    }
+
+    /** By longs, as another way of going round: seeds whose first draw says something on a plain without wells. */
+    private static void drawsSayings() {
+        int said = 0;
+        for (int seed = -20; seed < 60; seed++) {
+            long r = next(seed);
+            if (r / 65536 % 4 != 2) {
+                continue;
             }
+            said++;
+            long field = next(r) / 65536 % 9;
+            long words = next(next(r)) / 65536 % 9 + 1;
+            long meant = next(next(next(r))) / 65536 % 2;
+            long second = next(next(next(next(r)))) / 65536 % 4;
+            FullStopWells y = new FullStopWells();
+            Due.row(y, "years(" + seed + ", 1)", y.years(seed, 1), 0, 1, 0);
+            Due.is("count(3)", y.count(3), 0);
+            if (second <= 1) {
+                Due.rule(y, "w");
+                Due.is("words drawn by " + seed, y.years(seed, 2), words);
+                Due.rule(y, "m");
+                Due.is("meant drawn by " + seed, y.years(seed, 2), meant);
+            }
+            y.says((int) field, 1, 1);
+            Due.row(y, "said on the field of " + seed + " already", y.years(seed, 1), 0, 1, 0);
         }
-        FullStopWells many = Due.made("33" + "6.6" + "..." + "6.6", "");
-        int ahead = 0;
+        Due.is("seeds that say something", said > 5, true);
+    }
+
+    private static void toEightWells() {
+        FullStopWells x = Due.made("33" + "6.6" + "..." + "6.6", "");
+        int most = 0;
         for (int seed = -40; seed < 0; seed++) {
-            many.years(seed, 60);
-            Due.is("wells", many.row(0), many.count(3));
-            Due.is("parched more", many.row(1), many.count(5) - ahead);
-            ahead = many.count(5);
+            x.years(seed, 60);
+            most = Math.max(most, (int) x.row(0));
+            Due.is("wells behind years()", x.count(3), 0);
         }
-        Due.is("8 in the end", many.count(3), 8);
-        Due.is("9 ands in each", many.count(8), 72);
+        Due.is("8 at most", most, 8);
+    }
+
+    private static void upToTheMostParched() {
+        FullStopWells x = Due.made("33" + "666" + "666" + "...", "");
+        Due.rule(x, "0");
+        for (int i = 1; i <= 27; i++) {
+            x.seasons(60);
+        }
+        for (int i = 1; i <= 46; i++) {
+            x.seasons(1);
+        }
+        Due.is("count(5)", x.count(5), 9996);
+        x.years(3, 60);
+        Due.is("parched more up to 9999", x.row(1), 3);
+        Due.is("count(5)", x.count(5), 9996);
     }
 
     private static long next(long r) {

@@ -194,7 +194,7 @@ final class SayingTest {
         x.heard(0, 1);
         x.years(5, 5);
         Due.is("these neither", x.count(11), 1);
-        Due.is("undo goes behind years()", x.undo(), 0);
+        Due.is("undo undoes no years()", x.undo(), 0);
         Due.is("wells", x.count(3), 2);
         Due.is("season", x.count(4), 1);
         x.ands(0);
