@@ -241,11 +241,7 @@ final class ModelTest {
             case 8: ask("keep(" + i + ")", () -> x.keep(i) ? 1 : 0, () -> m.keep(i)); break;
             case 9: ask("again(" + i + ")", () -> x.again(i) ? 1 : 0, () -> m.again(i)); break;
             case 10: ask("sheet(" + k + ", " + entries + ", " + e + ", " + s + ")", () -> x.sheet(k, entries, e, s), () -> m.sheet(k, entries, e, s)); break;
-            case 11:
-                if (upTo(4) == 0) {
-                    ask("years(" + e + ", " + t + ")", () -> x.years(e, t), () -> m.years(e, t));
-                }
-                break;
+            case 11: ask("years(" + e + ", " + t + ")", () -> x.years(e, t), () -> m.years(e, t)); break;
             case 12: ask("forget()", x::forget, m::forget); break;
             default: {
                 int what = about(0, 4);
