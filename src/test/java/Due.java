@@ -1,7 +1,10 @@
+import java.util.function.ToLongFunction;
+
 /** Counts answers that are not as due, and tells texts to an object. */
 final class Due {
     private static int asked = 0;
     private static int wrong = 0;
+    private static String about = "";
 
     private Due() {
     }
@@ -10,7 +13,28 @@ final class Due {
         asked++;
         if (got != want) {
             wrong++;
-            System.out.println(call + " answered " + got + ", due is " + want);
+            System.out.println(about + call + " answered " + got + ", due is " + want);
+        }
+    }
+
+    /** Runs a test whose answers, if they are not as due, are told with what they are about. */
+    static void within(String what, Runnable test) {
+        about = what;
+        try {
+            test.run();
+        } catch (RuntimeException e) {
+            asked++;
+            wrong++;
+            System.out.println(about + "threw " + e);
+        }
+        about = "";
+    }
+
+    static void is(String call, String got, String want) {
+        asked++;
+        if (!got.equals(want)) {
+            wrong++;
+            System.out.println(about + call + " answered " + got + ", due is " + want);
         }
     }
 
@@ -27,6 +51,11 @@ final class Due {
         }
     }
 
+    /** Asks, and looks at the answer and the whole ROW. */
+    static void answers(FullStopWells x, ToLongFunction<FullStopWells> ask, long want, long... row) {
+        row(x, "the call", ask.applyAsLong(x), want, row);
+    }
+
     static void throwsNoSuchElement(String call, Runnable run) {
         String got = "nothing";
         try {
@@ -37,7 +66,7 @@ final class Due {
         asked++;
         if (!got.equals("NoSuchElementException")) {
             wrong++;
-            System.out.println(call + " threw " + got + ", due is NoSuchElementException");
+            System.out.println(about + call + " threw " + got + ", due is NoSuchElementException");
         }
     }
 
