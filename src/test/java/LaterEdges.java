@@ -249,6 +249,11 @@ final class LaterEdges {
         Due.row(x, "the last two", x.richest(0), 1, 5, 1);
         x.sheet(2, 3, 99, 1);
         Due.row(x, "all of them", x.richest(99), 0, 99, 0);
+        FullStopWells y = Due.made(TermEdges.BARE, TermEdges.EIGHT);
+        y.sheet(2, 8, 1, 1);
+        Due.row(y, "the last of eight", y.richest(0), 7, 8, 0);
+        y.sheet(2, 8, 8, -1);
+        Due.row(y, "the first of eight", y.richest(0), 0, 8, 0);
     }
 
     private static void rowOfRichest() {
@@ -326,6 +331,9 @@ final class LaterEdges {
         for (int v = 0; v <= 10; v++) {
             Due.is("covers(" + v + ")", x.covers(v), due[v]);
         }
+        for (int v = 10; v >= 0; v--) {
+            Due.is("covers(" + v + ") behind greater ones", x.covers(v), due[v]);
+        }
         FullStopWells y = Due.made("66" + "1....." + "......".repeat(4) + ".....1", "");
         Due.row(y, "covers(4)", y.covers(4), 2, 0, 11);
         Due.row(y, "covers(5)", y.covers(5), 1, 5);
@@ -338,6 +346,8 @@ final class LaterEdges {
         Due.row(x, "covers(1)", x.covers(1), 2, 2, 7);
         FullStopWells y = Due.made("33" + "1.1" + ".1." + "1.1", "");
         Due.row(y, "covers(0)", y.covers(0), 5, 0, 2, 4, 6, 8);
+        FullStopWells z = Due.made("33" + "111" + "..." + ".11", "");
+        Due.row(z, "covers(0) of those side by side", z.covers(0), 5, 0, 1, 2, 7, 8);
         Due.row(y, "covers(1)", y.covers(1), 2, 1, 7);
         Due.row(y, "covers(2)", y.covers(2), 1, 4);
         Due.row(y, "covers(3)", y.covers(3), 1, 1);
@@ -364,7 +374,11 @@ final class LaterEdges {
         FullStopWells y = Due.made("33" + "6........", TermEdges.EIGHT.substring(0, 34));
         Due.rule(y, "0");
         Due.row(y, "the first of two without a WELL", y.best(5, 1), 7, 1);
-        // MEANT: FLOW is 9 less than the one that trails off
+        // wherever it is, one draws from it and has too little
+        FullStopWells w = Due.made("33" + "2.2" + "2.2" + "2.2", "011.;111.;211.");
+        Due.row(w, "on each FIELD one is PARCHED", w.best(9, 1), 0, 1);
+        Due.row(w, "in 8 WORDS there is enough", w.best(8, 1), 0, 0);
+        // if it were not MEANT, it would have no FLOW
         FullStopWells z = Due.made("33" + "....6....", "");
         Due.rule(z, "m*6");
         Due.row(z, "MEANT", z.best(9, 30), 0, 0);
@@ -462,6 +476,8 @@ final class LaterEdges {
         Due.is("of no FLOW", thirstOf(1, "0").longest(0, 0, 1), -2);
         Due.is("of 5 for 6", thirstOf(6, "5").longest(0, 0, 1), -2);
         Due.is("of 6 for 6", thirstOf(6, "6").longest(0, 0, 1), 9);
+        Due.is("in 0 WORDS alone", thirstOf(1, "w=0").longest(0, 0, 1), -2);
+        Due.is("in 10 WORDS alone", thirstOf(1, "w=10").longest(0, 0, 1), -2);
     }
 
     private static void longestOnAWell() {
@@ -505,6 +521,11 @@ final class LaterEdges {
         // either of the last two has WATER for 2 of 3 SEASONS
         Due.row(x, "dearest(3)", x.dearest(3), 1, 4, 2);
         Due.row(x, "dearest(1)", x.dearest(1), 0, 0, 0);
+        FullStopWells y = Due.made("33" + "1.......1", TermEdges.EIGHT);
+        Due.rule(y, "0");
+        y.sheet(2, 8, -1, 1);
+        // WATER of 0, 0, 1 .. 6 for 60 times
+        Due.row(y, "the last of eight", y.dearest(30), 7, 45, 39);
     }
 
     private static void rowOfDearest() {
@@ -540,6 +561,13 @@ final class LaterEdges {
             x.ands(0);
         }
         Due.is("ANDS", x.well(0, 3), 9);
+        FullStopWells y = Due.made("33" + "1........", "001.");
+        Due.rule(y, "a<8");
+        for (int ands = 0; ands <= 7; ands++) {
+            Due.row(y, "those that are there are counted, too: " + ands, y.bears(0, 3), 7 - ands, 0);
+            y.ands(0);
+        }
+        Due.row(y, "one too many is there", y.bears(0, 3), 1, 3);
     }
 
     private static void noMoreThanWithout() {

@@ -45,6 +45,7 @@ final class PlainEdges {
         Edge.test(2, "how many it has", PlainEdges::fourMoreEachTime);
         Edge.test(2, "Refused: there would be more than 80", PlainEdges::eightySigns);
         Edge.test(3, "THE TEXT has its first n signs alone: true", PlainEdges::firstSignsAlone);
+        Edge.test(3, "THE TEXT has its first n signs alone: true", PlainEdges::signsBehindAreGone);
         Edge.test(3, "false if it has not so many", PlainEdges::notSoMany);
         Edge.test(3, "or n is below 0", PlainEdges::belowZeroSigns);
     }
@@ -107,6 +108,27 @@ final class PlainEdges {
         x.sign(0x35363738);
         Due.is("end(0)", x.end(0), true);
         Due.is("signs", Seen.signs(x), 0);
+    }
+
+    /** A text that is cut so that its next sign would go on with it. */
+    private static FullStopWells cut(String text, int n) {
+        FullStopWells x = TermEdges.made();
+        Due.tell(x, text);
+        Due.is("end(" + n + ") of " + text, x.end(n), true);
+        return x;
+    }
+
+    private static void signsBehindAreGone() {
+        Due.is("plain", cut(TermEdges.BARE, 10).plain(), -11);
+        Due.is("wells", cut("001.;021.", 3).wells(), -4);
+        Due.is("wells", cut("001.;021.", 5).wells(), -6);
+        Due.is("wells", cut("001.;021.", 4).wells(), 1);
+        Due.is("rule", cut("w+w", 2).rule(), -3);
+        Due.is("year", cut("n1a0", 3).year(), -4);
+        Due.is("year", cut("n1a0", 2).year(), 1);
+        Due.is("law", cut("w+w", 2).law(), -10002);
+        Due.is("waits", cut("19", 1).waits(), 1);
+        Due.is("waits", cut("19", 0).waits(), -1);
     }
 
     private static void notSoMany() {
@@ -379,6 +401,7 @@ final class PlainEdges {
         Edge.test(6, "THE TEXT is THE RULE", PlainEdges::ruleIsTold);
         Edge.test(6, "(an empty one: none): 0", PlainEdges::emptyRule);
         Edge.test(6, "-1 - p: likewise (40 signs)", PlainEdges::wrongRules);
+        Edge.test(6, "THE TEXT is THE RULE", PlainEdges::ruleBehindWrongOnes);
     }
 
     private static void ruleIsTold() {
@@ -395,6 +418,20 @@ final class PlainEdges {
         Due.is("THE RULE behind undo()", x.well(1, 6), 3);
         x.again(0);
         Due.is("THE RULE behind again()", x.well(1, 6), 3);
+    }
+
+    /** Whatever a wrong rule left begun, the next one is read by itself. */
+    private static void ruleBehindWrongOnes() {
+        String[] wrong = {"w-", "((((1", "1<", "-", "(1+(2*(", "12x", "1<2<3", "-".repeat(40), "1+".repeat(20)};
+        String[] right = {"w", "((((4))))", "5-1", "1+3", "--4", "(1<2)*4", "4"};
+        FullStopWells x = Due.made(TermEdges.BARE, "004.");
+        for (String first : wrong) {
+            for (String second : right) {
+                Due.is("rule of " + first + " is wrong", Due.rule(x, first) < 0, true);
+                Due.is("rule of " + second, Due.rule(x, second), 0);
+                Due.is("flow by " + second + " behind " + first, x.well(0, 6), 4);
+            }
+        }
     }
 
     private static void emptyRule() {

@@ -144,6 +144,14 @@ final class RouteEdges {
     private static void farthestTwo() {
         FullStopWells x = Due.made(TermEdges.BARE, "001.;021.;201.;221.;111.");
         Due.row(x, "0 and 3, not 1 and 2", x.reach(), 2, 0, 3, 4);
+        FullStopWells w = Due.made(TermEdges.WIDE, "221.;001.;551.");
+        Due.row(w, "1 and 2", w.reach(), 6, 1, 2, 10);
+        FullStopWells v = Due.made(TermEdges.WIDE, "001.;011.");
+        v.says(35, 1, 1);
+        v.undo();
+        Due.row(v, "not one that is gone", v.reach(), 1, 0, 1, 1);
+        v.says(35, 1, 1);
+        Due.row(v, "0 and 2", v.reach(), 9, 0, 2, 10);
         FullStopWells y = Due.made(TermEdges.BARE, "111.;001.;011.;021.");
         Due.row(y, "0 and 1, of like ones the least", y.reach(), 1, 0, 1, 2);
         FullStopWells z = Due.made(TermEdges.BARE, "111.;011.;001.;021.;221.");

@@ -428,6 +428,11 @@ final class SayingEdges {
         isUndone("seasons", x -> x.seasons(3));
         isUndone("says", x -> x.says(0, 1, 1));
         isUndone("ands", x -> x.ands(1));
+        isUndone("draws of all that there is", x -> x.draws(0, 6));
+        FullStopWells y = new FullStopWells();
+        Due.is("says() that answers 0", y.says(3, 1, 1), 0);
+        Due.is("undo()", y.undo(), 0);
+        Due.is("WELLS", y.count(3), 0);
         isUndone("clears", x -> x.clears(0));
         isUndone("draws", x -> x.draws(0, 1));
         isUndone("repents", x -> x.repents(0));

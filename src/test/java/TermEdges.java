@@ -192,6 +192,13 @@ final class TermEdges {
         }
         Due.is("a tenth", x.ands(0), -2);
         Due.is("ANDS", x.well(0, 3), 9);
+        // a WELL on the place of one that is gone begins anew
+        x.says(2, 1, 1);
+        x.ands(2);
+        x.undo();
+        x.undo();
+        x.says(2, 1, 1);
+        Due.is("at first, behind undo", x.well(2, 3), 0);
     }
 
     private static void waterTo99() {
@@ -362,6 +369,7 @@ final class TermEdges {
 
     private static void comparisons() {
         flows("1<2", 1, "2<1", 0, "2<2", 0, "2>1", 1, "1>2", 0, "2>2", 0, "2=2", 1, "1=2", 0, "2=1", 0);
+        flows("(2<1)+5", 5, "(1>2)+5", 5, "(1=2)+5", 5, "(1<2)+5", 6, "(2>1)+5", 6, "(1=1)+5", 6);
         flows("1+1<1+2", 1, "2*3>5", 1, "3=1+2", 1, "1<2+9", 1, "(1<2)+9-1", 9, "-1<0", 1);
         faults("<1", -1, "1<", -3);
     }
@@ -400,7 +408,7 @@ final class TermEdges {
             Due.rule(x, rules[i]);
             Due.is("flow by " + rules[i], x.well(0, 6), due[i]);
         }
-        faults("x", -1, "W", -1, "s", -1, "\u00e9", -1);
+        faults("x", -1, "W", -1, "s", -1, "\u00e9", -1, "w\u00ffw", -2, "\u00ffw", -1, "w\0", -2);
     }
 
     private static void villagesNear() {
