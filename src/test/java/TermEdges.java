@@ -193,9 +193,7 @@ final class TermEdges {
         Due.is("a tenth", x.ands(0), -2);
         Due.is("ANDS", x.well(0, 3), 9);
         // a WELL on the place of one that is gone begins anew
-        x.says(2, 1, 1);
-        x.ands(2);
-        x.undo();
+        Due.is("year", Due.year(x, "s021.a2a2"), 3);
         x.undo();
         x.says(2, 1, 1);
         Due.is("at first, behind undo", x.well(2, 3), 0);
