@@ -417,7 +417,7 @@ public final class FullStopWells {
         numbers.clear();
         numbers.add(from);
         int at = from;
-        for (int left = steps - 1; left >= 0; left--) {
+        for (int left = steps - 1; left >= 0 && now.has(at); left--) {
             at = ways.nextOne(now, ground, at, v, left);
             numbers.add(at);
         }

@@ -391,6 +391,13 @@ final class LaterEdges {
         Due.row(x, "in 1", x.best(9, 1), 1, 0);
         Due.answers(drop(0), y -> y.best(9, 1), 1, 1);
         Due.answers(drop(0), y -> y.best(9, 2), 1, 2);
+        // a WELL has FLOW only if it is FAR 2 or less from the VILLAGE
+        FullStopWells z = Due.made("33" + "1........", "");
+        Due.rule(z, "v");
+        Due.row(z, "FIELDS behind it are worse", z.best(1, 1), 0, 0);
+        FullStopWells w = Due.made("33" + "........1", "");
+        Due.rule(w, "v");
+        Due.row(w, "FIELDS ahead of it are worse", w.best(1, 1), 2, 0);
     }
 
     private static void bestOfEqualOnes() {
@@ -596,5 +603,9 @@ final class LaterEdges {
         Due.row(x, "fewer than without", x.bears(1, 2), 9, 0);
         x.seasons(9);
         Due.row(x, "those ahead are not told", x.bears(1, 1), 9, 0);
+        FullStopWells y = Due.made("33" + "1.......1", "001.");
+        Due.rule(y, "a=0");
+        Due.row(y, "none, and one is PARCHED each time", y.bears(0, 1), 0, 1);
+        Due.row(y, "none, in 30", y.bears(0, 30), 0, 30);
     }
 }

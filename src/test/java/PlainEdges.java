@@ -453,6 +453,22 @@ final class PlainEdges {
             String text = "-".repeat(p);
             Due.is("rule of " + text, Due.rule(new FullStopWells(), text), -1 - p);
         }
+        eachSign("", "0123456789wdamvln", "-(");
+        eachSign("1-", "0123456789wdamvln", "-(");
+        eachSign("w", "", "<>=+-*/");
+        eachSign("(w", ")", "<>=+-*/");
+        eachSign("(w)", "", "<>=+-*/");
+        eachSign("w<d", "", "+-*/");
+        eachSign("12", "0123456789", "<>=+-*/");
+        eachSign("123", "", "<>=+-*/");
+    }
+
+    /** Of all signs behind a text, some end a rule, some ask for more, all others can't stand there. */
+    private static void eachSign(String ahead, String ends, String asksForMore) {
+        for (char sign = 0; sign < 256; sign++) {
+            int due = ends.indexOf(sign) >= 0 ? 0 : asksForMore.indexOf(sign) >= 0 ? -2 - ahead.length() : -1 - ahead.length();
+            Due.is("rule of " + ahead + " and sign " + (int) sign, Due.rule(new FullStopWells(), ahead + sign), due);
+        }
     }
 
     private static void looks() {

@@ -336,7 +336,7 @@ final class SayingEdges {
     }
 
     private static void fieldThatIsNotThere() {
-        isDone("s301.", 1, "s031.", 1, "s991.", 1, "s221.", 0);
+        isDone("s301.", 1, "s031.", 1, "s991.", 1, "s221.", 0, "s401.", 1, "s901.", 1, "s041.", 1, "s091.", 1);
         FullStopWells x = Due.made("36" + ".".repeat(18), "");
         Due.row(x, "COLUMN 5 of 6", Due.year(x, "s051."), 1, 0, 0);
         Due.row(x, "COLUMN 6 of 6: no FIELD of the next ROW", Due.year(x, "s061."), 0, 1, 0);
